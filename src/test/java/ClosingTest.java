@@ -8,6 +8,7 @@ public final class ClosingTest {
         test.promise9CloseExceed();
         test.promise9CloseTotal();
         test.promise9CloseListed();
+        test.promise9CloseFullList();
         test.promise9CloseGoesRound();
         test.promise9LongChain();
         test.promise9CloseEmpty();
@@ -59,6 +60,17 @@ public final class ClosingTest {
         check.dueDomains("listed, without the second entry", object, 0b0111, 0b0001, 0b0010);
     }
 
+    private void promise9CloseFullList() {
+        TrailedDomains object = Check.withVariables(65535, 65535, 65535);
+        for (int e = 0; e < 12; e++) {
+            object.entry(0, e, e, e);
+        }
+        object.entry(1, 15, 15, 15);
+        object.listed(0, 0, 1, 2);
+        check.due("a full list: close()", object.close(), 12);
+        check.dueDomains("a full list", object, 4095, 4095, 4095);
+    }
+
     private void promise9CloseGoesRound() {
         TrailedDomains object = Check.withVariables(15, 15, 15, 15);
         object.exceed(2, 3, 1);
@@ -75,6 +87,13 @@ public final class ClosingTest {
         object.differ(0, 2, 0);
         check.due("values taken out one by one until none is left", object.close(), -1);
         check.dueDomains("values taken out one by one", object, 65535, 65535, 65535);
+        // A ring whose rules stand in such an order that going through them once changes little.
+        TrailedDomains ring = Check.withVariables(65535, 65535, 65535, 65535, 65535, 65535, 65535, 65535);
+        for (int x : new int[] {0, 2, 4, 6, 1, 3, 5}) {
+            ring.exceed(x, x + 1, 0);
+        }
+        ring.exceed(7, 0, 1);
+        check.due("a ring: close()", ring.close(), -1);
     }
 
     private void promise9CloseEmpty() {
@@ -130,6 +149,10 @@ public final class ClosingTest {
         check.due("no rule -1", object.supports(-1, 0, 0), -1);
         check.due("no rule 2", object.supports(2, 0, 0), -1);
         check.due("rule 0 is not about 2", object.supports(0, 2, 0), -1);
+        object.push();
+        object.exceed(2, 0, 1);
+        check.due("rule 1 is not about 2, but the next is", object.supports(1, 2, 0), -1);
+        object.pop();
         check.due("rule 1 is not about 2", object.supports(1, 2, 0), -1);
         check.due("no variable -1", object.supports(0, -1, 0), -1);
         check.due("no variable 4", object.supports(0, 4, 0), -1);

@@ -107,6 +107,9 @@ public final class MakingTest {
         check.due("no rule has the list beside it", object.entry(0, 2, 2, 2), true);
         check.due("the refused entry is not there", object.supports(1, 0, 2), 0);
         check.due("the entry made after pop is", object.supports(1, 0, 1), 1);
+        TrailedDomains first = Check.withVariables(7, 7, 7);
+        first.listed(0, 0, 1, 2);
+        check.due("the first rule has the list", first.entry(0, 1, 1, 1), false);
     }
 
     private void promise4Differ() {

@@ -19,6 +19,7 @@ public final class SearchTest {
         test.promise13DeepestTree();
         test.promise13EveryChoiceOnce();
         test.promise14Stop();
+        test.promise14NothingLeftOver();
         test.promises18To21CountsStartAnew();
         test.check.end();
     }
@@ -211,6 +212,15 @@ public final class SearchTest {
         half.search();
         half.advance(2);
         check.dueDomains("one of two others", half, 15, 1, 1, 1, 1, 15);
+        // A rule that pop has taken away counts no more.
+        TrailedDomains popped = Check.withVariables(7, 15, 15);
+        popped.push();
+        popped.differ(1, 2, 15);
+        popped.differ(1, 2, 14);
+        popped.pop();
+        popped.search();
+        popped.advance(2);
+        check.dueDomains("rules that are no more", popped, 1, 15, 15);
     }
 
     private void promise13DeepestTree() {
@@ -269,6 +279,24 @@ public final class SearchTest {
         check.due("stop() again", object.stop(), false);
         check.due("advance(1) after stop()", object.advance(1), -1);
         check.due("close() after stop()", object.close(), 2);
+    }
+
+    private void promise14NothingLeftOver() {
+        TrailedDomains object = Check.withVariables(7, 3);
+        object.search();
+        object.advance(2);
+        check.due("stopped with trials left at depth 1", object.stop(), true);
+        object.remove(0, 0);
+        object.remove(0, 1);
+        object.search();
+        object.advance(1);
+        check.due("a solution at depth 1", object.advance(1), 2);
+        check.due("the next one", object.advance(1), 2);
+        check.dueDomains("the next one", object, 4, 2);
+        check.due("found()", object.found(), 2);
+        object.stop();
+        object.search();
+        check.due("found() is new", object.found(), 0);
     }
 
     private void promises18To21CountsStartAnew() {
