@@ -44,7 +44,7 @@ public final class ClosingLimitsTest {
             object.differ(0, 1, c);
             check.due("differ by " + c + ": close()", object.close(), 1);
             check.dueDomains("differ by " + c, object, 1 << other, 1 << y);
-            refusals.refused("differ by " + c + ", one value: close()", o -> {
+            refusals.refusedAlways("differ by " + c + ", one value: close()", o -> {
                 o.variable(1 << x);
                 o.variable(1 << y);
                 o.differ(0, 1, shift);
@@ -57,7 +57,7 @@ public final class ClosingLimitsTest {
         last.exceed(0, 1, 3);
         check.due("exceed by 3: close()", last.close(), 6);
         check.dueDomains("exceed by 3", last, 0b1000, 0b0001);
-        refusals.refused("exceed by 4: close()", o -> {
+        refusals.refusedAlways("exceed by 4: close()", o -> {
             o.variable(0b1111);
             o.variable(0b1111);
             o.exceed(0, 1, 4);
@@ -69,7 +69,7 @@ public final class ClosingLimitsTest {
         TrailedDomains free = Check.withVariables(1, 32768);
         free.exceed(0, 1, -15);
         check.due("exceed by -15: close()", free.close(), 0);
-        refusals.refused("exceed by -14: close()", o -> {
+        refusals.refusedAlways("exceed by -14: close()", o -> {
             o.variable(1);
             o.variable(32768);
             o.exceed(0, 1, -14);
@@ -82,7 +82,7 @@ public final class ClosingLimitsTest {
         closeTotal(65535, 0, 1);
         closeTotal(65535, 45, 32768);
         for (int s : new int[] {2, 10}) {
-            refusals.refused("total " + s + ": close()", o -> {
+            refusals.refusedAlways("total " + s + ": close()", o -> {
                 o.variable(0b1110);
                 o.variable(0b1110);
                 o.variable(0b1110);
@@ -101,7 +101,7 @@ public final class ClosingLimitsTest {
     private void promise9WhenListedEmpties() {
         for (int list = 0; list < 4; list++) {
             int r = list;
-            refusals.refused("a list without an entry: close()", o -> {
+            refusals.refusedAlways("a list without an entry: close()", o -> {
                 Worlds.variables(o, 3);
                 o.entry((r + 1) % 4, -1, -1, -1);
                 o.listed(r, 0, 1, 2);
@@ -114,7 +114,7 @@ public final class ClosingLimitsTest {
         }
         for (int place = 0; place < 3; place++) {
             int without = place;
-            refusals.refused("the only entry does not match at " + place + ": close()", o -> {
+            refusals.refusedAlways("the only entry does not match at " + place + ": close()", o -> {
                 for (int x = 0; x < 3; x++) {
                     o.variable(x == without ? 0b1101 : 0b1111);
                 }
@@ -128,7 +128,7 @@ public final class ClosingLimitsTest {
     private void promise9WhenOneOfManyDomainsIsEmpty() {
         for (int pair = 0; pair < 4; pair++) {
             int clash = pair;
-            refusals.refused("the pair " + pair + " of four clashes: close()", o -> {
+            refusals.refusedAlways("the pair " + pair + " of four clashes: close()", o -> {
                 for (int x = 0; x < 8; x++) {
                     o.variable(x / 2 == clash ? 4 : 0b1111);
                 }
@@ -144,7 +144,7 @@ public final class ClosingLimitsTest {
         object.exceed(0, 1, 0);
         object.exceed(1, 0, 0);
         check.due("at least and at most: close()", object.close(), 0);
-        refusals.refused("more and at most: close()", o -> {
+        refusals.refusedAlways("more and at most: close()", o -> {
             o.variable(65535);
             o.variable(65535);
             o.exceed(0, 1, 1);
@@ -183,10 +183,10 @@ public final class ClosingLimitsTest {
                 int x = variable;
                 refusals.taken("domain(" + x + ") of " + there, story, o -> o.domain(x), 65535 >> x);
             }
-            refusals.refused("domain(" + there + ") of " + there, story, o -> o.domain(there));
+            refusals.refusedAlways("domain(" + there + ") of " + there, story, o -> o.domain(there));
         }
         for (int x : Check.outside(0, 7)) {
-            refusals.refused("domain(" + x + ") of eight", o -> Worlds.variables(o, 8), o -> o.domain(x));
+            refusals.refusedAlways("domain(" + x + ") of eight", Worlds::eightVariables, o -> o.domain(x));
         }
     }
 
@@ -194,8 +194,8 @@ public final class ClosingLimitsTest {
         for (int visits = 0; visits <= Worlds.VISITS; visits++) {
             int made = visits;
             Refusals.Story story = o -> Worlds.search(o, Worlds::small, made);
-            refusals.refused("domain(-1) after " + made + " visits", story, o -> o.domain(-1));
-            refusals.refused("domain(4) after " + made + " visits", story, o -> o.domain(4));
+            refusals.refusedAlways("domain(-1) after " + made + " visits", story, o -> o.domain(-1));
+            refusals.refusedAlways("domain(4) after " + made + " visits", story, o -> o.domain(4));
         }
     }
 
@@ -206,17 +206,17 @@ public final class ClosingLimitsTest {
             for (int k = 0; k < there; k++) {
                 check.due("rule " + k + " of " + there, Refusals.after(story).supports(k, 1, 0) >= 0, true);
             }
-            refusals.refused("rule " + there + " of " + there, story, o -> o.supports(there, 1, 0));
-            refusals.refused("rule -1 of " + there, story, o -> o.supports(-1, 1, 0));
+            refusals.refusedAlways("rule " + there + " of " + there, story, o -> o.supports(there, 1, 0));
+            refusals.refusedAlways("rule -1 of " + there, story, o -> o.supports(-1, 1, 0));
         }
         for (int k : Check.outside(0, 15)) {
-            refusals.refused("rule " + k + " of 16", o -> Worlds.rules(o, 16), o -> o.supports(k, 1, 0));
+            refusals.refusedAlways("rule " + k + " of 16", o -> Worlds.rules(o, 16), o -> o.supports(k, 1, 0));
         }
     }
 
     private void promise16WhenTheRuleIsNoMore() {
         refusals.taken("rule 7 above the level", Worlds::levelled, o -> o.supports(7, 3, 0), 2);
-        refusals.refused("rule 7 after pop()", o -> {
+        refusals.refusedAlways("rule 7 after pop()", o -> {
             Worlds.levelled(o);
             o.pop();
         }, o -> o.supports(7, 3, 0));
@@ -244,7 +244,7 @@ public final class ClosingLimitsTest {
                 if (Arrays.stream(members[k]).anyMatch(member -> member == x)) {
                     check.due(what + " is more than 0", Refusals.after(story).supports(k, x, 1) > 0, true);
                 } else {
-                    refusals.refused(what, story, o -> o.supports(k, x, 1));
+                    refusals.refusedAlways(what, story, o -> o.supports(k, x, 1));
                 }
             }
         }
@@ -254,7 +254,8 @@ public final class ClosingLimitsTest {
         for (int rule = 0; rule < 4; rule++) {
             int k = rule;
             for (int x : Check.outside(0, 2)) {
-                refusals.refused("supports(" + k + ", " + x + ", 1)", o -> Worlds.rules(o, 4), o -> o.supports(k, x, 1));
+                refusals.refusedAlways("supports(" + k + ", " + x + ", 1)", o -> Worlds.rules(o, 4),
+                        o -> o.supports(k, x, 1));
             }
         }
     }
@@ -268,7 +269,8 @@ public final class ClosingLimitsTest {
                         Refusals.after(o -> Worlds.rules(o, 4)).supports(k, 1, v) >= 0, true);
             }
             for (int v : Check.outside(0, 15)) {
-                refusals.refused("supports(" + k + ", 1, " + v + ")", o -> Worlds.rules(o, 4), o -> o.supports(k, 1, v));
+                refusals.refusedAlways("supports(" + k + ", 1, " + v + ")", o -> Worlds.rules(o, 4),
+                        o -> o.supports(k, 1, v));
             }
         }
     }

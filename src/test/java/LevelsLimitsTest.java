@@ -13,6 +13,7 @@ public final class LevelsLimitsTest {
         test.promise11WhenASearchIsUnderWay();
         test.promise11WhenThereIsNone();
         test.promise11WhenNothingWasChanged();
+        test.promise11OfTenLevelsAndEightVariables();
         test.promise11WhenAllRulesAreNoMore();
         test.promise11WhenADomainIsAsSmallAsCanBe();
         test.check.end();
@@ -32,6 +33,8 @@ public final class LevelsLimitsTest {
         refusals.refused("push() after ten", o -> Worlds.pushAndPop(o, Worlds::small, LEVELS, 0), TrailedDomains::push);
         // Each level has domains of its own, so that a refused one that wrote over another would be seen.
         refusals.refused("push() after ten that differ", this::makeTenLevels, TrailedDomains::push);
+        refusals.refused("push() after ten, in a search", o -> Worlds.search(o, this::makeTenLevels, 2),
+                TrailedDomains::push);
     }
 
     private void promise10WhenTheTenthWasTakenAway() {
@@ -58,6 +61,8 @@ public final class LevelsLimitsTest {
     private void promise11WhenThereIsNone() {
         refusals.refused("pop() of a new object", o -> { }, TrailedDomains::pop);
         refusals.refused("pop() without a level", Worlds::small, TrailedDomains::pop);
+        refusals.refused("pop() without a level, in a search", o -> Worlds.search(o, Worlds::small, 2),
+                TrailedDomains::pop);
         for (int count = 1; count <= LEVELS; count++) {
             int there = count;
             refusals.taken("pop() of " + there, o -> Worlds.pushAndPop(o, Worlds::small, there, 0),
@@ -81,6 +86,30 @@ public final class LevelsLimitsTest {
         check.due("nothing since push(): pop()", object.pop(), 0);
         check.dueDomains("nothing since push()", object, 0b0011, 0b1111, 0b0111, 0b0111);
         check.due("nothing since push(): rules()", object.rules(), 7);
+    }
+
+    /** Every level has a domain of its own for every variable, and a number of rules of its own. */
+    private void promise11OfTenLevelsAndEightVariables() {
+        TrailedDomains object = new TrailedDomains();
+        int[][] domains = new int[LEVELS + 1][8];
+        for (int x = 0; x < 8; x++) {
+            domains[0][x] = 65535;
+            object.variable(65535);
+        }
+        for (int level = 1; level <= LEVELS; level++) {
+            check.due("push()", object.push(), level);
+            check.due("a rule of level " + level, object.exceed(level % 8, (level + 1) % 8, -15), level - 1);
+            for (int x = 0; x < 8; x++) {
+                check.due("a value of level " + level, object.remove(x, (level + 2 * x) % 16), true);
+                domains[level][x] = domains[level - 1][x] - (1 << (level + 2 * x) % 16);
+            }
+        }
+        for (int level = LEVELS; level >= 0; level--) {
+            check.due("rules() of level " + level, object.rules(), level);
+            check.dueDomains("level " + level, object, domains[level]);
+            check.due("pop() of level " + level, object.pop(), level - 1);
+        }
+        check.dueDomains("after the refused pop()", object, domains[0]);
     }
 
     private void promise11WhenAllRulesAreNoMore() {

@@ -85,8 +85,8 @@ public final class MakingLimitsTest {
             int there = count;
             refusals.taken("variable after " + there, o -> Worlds.variables(o, there), o -> o.variable(9), there);
         }
-        refusals.refused("variable(1) after eight", o -> Worlds.variables(o, 8), o -> o.variable(1));
-        refusals.refused("variable(65535) after eight", o -> Worlds.variables(o, 8), o -> o.variable(65535));
+        refusals.refusedAlways("variable(1) after eight", Worlds::eightVariables, o -> o.variable(1));
+        refusals.refusedAlways("variable(65535) after eight", Worlds::eightVariables, o -> o.variable(65535));
     }
 
     private void promise2WhenValuesIsNot1To65535() {
@@ -96,7 +96,7 @@ public final class MakingLimitsTest {
             check.due("variable(" + values + "): domain(0)", object.domain(0), values);
         }
         for (int values : Check.outside(1, 65535)) {
-            refusals.refused("variable(" + values + ")", Worlds::small, o -> o.variable(values));
+            refusals.refusedAlways("variable(" + values + ")", Worlds::small, o -> o.variable(values));
         }
     }
 
@@ -114,7 +114,7 @@ public final class MakingLimitsTest {
             refusals.taken("entry of list " + r, o -> Worlds.variables(o, 3), o -> entry(o, r, 1, 1, 1), 1);
         }
         for (int r : Check.outside(0, 3)) {
-            refusals.refused("entry of list " + r, Worlds::small, o -> entry(o, r, 1, 1, 1));
+            refusals.refusedAlways("entry of list " + r, Worlds::small, o -> entry(o, r, 1, 1, 1));
         }
     }
 
@@ -125,7 +125,7 @@ public final class MakingLimitsTest {
                 Worlds.entries(o, r, 2);
                 o.listed(r, 2, 1, 0);
             };
-            refusals.refused("entry of list " + r + ", which a rule has", story, o -> entry(o, r, 1, 1, 1));
+            refusals.refusedAlways("entry of list " + r + ", which a rule has", story, o -> entry(o, r, 1, 1, 1));
             for (int beside = 1; beside < 4; beside++) {
                 int other = (r + beside) % 4;
                 refusals.taken("entry of list " + other + ", which none has", story, o -> entry(o, other, 1, 1, 1), 1);
@@ -144,7 +144,7 @@ public final class MakingLimitsTest {
     private void promise3WhenTheListedRuleIsTheLastOfSixteen() {
         Refusals.Story fifteen = o -> {
             Worlds.entries(o, 3, 1);
-            for (int k = 0; k < 15; k++) {
+            for (int k = 1; k < 15; k++) {
                 o.differ(0, 1, k);
             }
         };
@@ -153,7 +153,7 @@ public final class MakingLimitsTest {
             fifteen.tell(o);
             o.listed(3, 0, 1, 2);
         };
-        refusals.refused("entry, the sixteenth rule has the list", sixteen, o -> entry(o, 3, 1, 1, 1));
+        refusals.refusedAlways("entry, the sixteenth rule has the list", sixteen, o -> entry(o, 3, 1, 1, 1));
     }
 
     private void promise3WhenTheListedRuleIsNoMore() {
@@ -164,7 +164,7 @@ public final class MakingLimitsTest {
             o.pop();
         };
         refusals.taken("entry, the rule of list 2 is no more", gone, o -> entry(o, 2, 1, 1, 1), 1);
-        refusals.refused("entry, the rule of list 1 still is", gone, o -> entry(o, 1, 1, 1, 1));
+        refusals.refusedAlways("entry, the rule of list 1 still is", gone, o -> entry(o, 1, 1, 1, 1));
     }
 
     private void promise3WhenTwelveAreThere() {
@@ -174,8 +174,8 @@ public final class MakingLimitsTest {
                 int there = count;
                 refusals.taken("entry after " + there, o -> Worlds.entries(o, r, there), o -> entry(o, r, 1, 1, 1), 1);
             }
-            refusals.refused("entry after twelve", o -> Worlds.entries(o, r, 12), o -> entry(o, r, 12, 12, 12));
-            refusals.refused("entry after twelve, as one there", o -> Worlds.entries(o, r, 12),
+            refusals.refusedAlways("entry after twelve", o -> Worlds.entries(o, r, 12), o -> entry(o, r, 12, 12, 12));
+            refusals.refusedAlways("entry after twelve, as one there", o -> Worlds.entries(o, r, 12),
                     o -> entry(o, r, 11, 4, -1));
             refusals.taken("entry, another list has twelve", o -> Worlds.entries(o, r, 12),
                     o -> entry(o, (r + 1) % 4, 1, 1, 1), 1);
@@ -197,9 +197,9 @@ public final class MakingLimitsTest {
             refusals.taken("entry, c is " + v, Worlds::small, o -> entry(o, 0, 1, 1, v), 1);
         }
         for (int v : Check.outside(-1, 15)) {
-            refusals.refused("entry, a is " + v, Worlds::small, o -> entry(o, 0, v, 1, 1));
-            refusals.refused("entry, b is " + v, Worlds::small, o -> entry(o, 0, 1, v, 1));
-            refusals.refused("entry, c is " + v, Worlds::small, o -> entry(o, 0, 1, 1, v));
+            refusals.refusedAlways("entry, a is " + v, Worlds::small, o -> entry(o, 0, v, 1, 1));
+            refusals.refusedAlways("entry, b is " + v, Worlds::small, o -> entry(o, 0, 1, v, 1));
+            refusals.refusedAlways("entry, c is " + v, Worlds::small, o -> entry(o, 0, 1, 1, v));
         }
     }
 
@@ -239,7 +239,7 @@ public final class MakingLimitsTest {
             refusals.taken(name + " after " + there + " rules", o -> Worlds.rules(o, there),
                     o -> maker.make(o, 0, 1, 2, 2), there);
         }
-        refusals.refused(name + " after sixteen rules", o -> Worlds.rules(o, 16), o -> maker.make(o, 0, 1, 2, 2));
+        refusals.refusedAlways(name + " after sixteen rules", o -> Worlds.rules(o, 16), o -> maker.make(o, 0, 1, 2, 2));
         refusals.taken(name + " when the sixteenth is no more", o -> {
             Worlds.rules(o, 15);
             o.push();
@@ -257,21 +257,21 @@ public final class MakingLimitsTest {
                 refusals.taken(what + "x is the last", story, o -> maker.make(o, there - 1, 0, -1, 1), 0);
                 refusals.taken(what + "y is the last", story, o -> maker.make(o, 0, there - 1, -1, 1), 0);
             }
-            refusals.refused(what + "x is the next", story, o -> maker.make(o, there, 0, -1, 1));
-            refusals.refused(what + "y is the next", story, o -> maker.make(o, 0, there, -1, 1));
-            refusals.refused(what + "x is -1", story, o -> maker.make(o, -1, 0, -1, 1));
-            refusals.refused(what + "y is -1", story, o -> maker.make(o, 0, -1, -1, 1));
+            refusals.refusedAlways(what + "x is the next", story, o -> maker.make(o, there, 0, -1, 1));
+            refusals.refusedAlways(what + "y is the next", story, o -> maker.make(o, 0, there, -1, 1));
+            refusals.refusedAlways(what + "x is -1", story, o -> maker.make(o, -1, 0, -1, 1));
+            refusals.refusedAlways(what + "y is -1", story, o -> maker.make(o, 0, -1, -1, 1));
         }
         for (int wrong : Check.outside(0, 3)) {
-            refusals.refused(name + ", x is " + wrong, Worlds::small, o -> maker.make(o, wrong, 2, -1, 1));
-            refusals.refused(name + ", y is " + wrong, Worlds::small, o -> maker.make(o, 2, wrong, -1, 1));
+            refusals.refusedAlways(name + ", x is " + wrong, Worlds::small, o -> maker.make(o, wrong, 2, -1, 1));
+            refusals.refusedAlways(name + ", y is " + wrong, Worlds::small, o -> maker.make(o, 2, wrong, -1, 1));
         }
     }
 
     private void whenXIsY(String name, Maker maker) {
         for (int same = -1; same <= 4; same++) {
             int x = same;
-            refusals.refused(name + ", x and y are " + x, Worlds::small, o -> maker.make(o, x, x, -1, 1));
+            refusals.refusedAlways(name + ", x and y are " + x, Worlds::small, o -> maker.make(o, x, x, -1, 1));
         }
     }
 
@@ -280,7 +280,7 @@ public final class MakingLimitsTest {
             refusals.taken(name + ", c is " + c, Worlds::small, o -> maker.make(o, 0, 1, -1, c), 7);
         }
         for (int c : Check.outside(-15, 15)) {
-            refusals.refused(name + ", c is " + c, Worlds::small, o -> maker.make(o, 0, 1, -1, c));
+            refusals.refusedAlways(name + ", c is " + c, Worlds::small, o -> maker.make(o, 0, 1, -1, c));
         }
     }
 
@@ -294,14 +294,14 @@ public final class MakingLimitsTest {
                 refusals.taken(what + "y is the last", story, o -> maker.make(o, 0, there - 1, 1, 1), 0);
                 refusals.taken(what + "z is the last", story, o -> maker.make(o, 0, 1, there - 1, 1), 0);
             }
-            refusals.refused(what + "x is the next", story, o -> maker.make(o, there, 0, 1, 1));
-            refusals.refused(what + "y is the next", story, o -> maker.make(o, 0, there, 1, 1));
-            refusals.refused(what + "z is the next", story, o -> maker.make(o, 0, 1, there, 1));
+            refusals.refusedAlways(what + "x is the next", story, o -> maker.make(o, there, 0, 1, 1));
+            refusals.refusedAlways(what + "y is the next", story, o -> maker.make(o, 0, there, 1, 1));
+            refusals.refusedAlways(what + "z is the next", story, o -> maker.make(o, 0, 1, there, 1));
         }
         for (int wrong : Check.outside(0, 3)) {
-            refusals.refused(name + ", x is " + wrong, Worlds::small, o -> maker.make(o, wrong, 1, 2, 1));
-            refusals.refused(name + ", y is " + wrong, Worlds::small, o -> maker.make(o, 1, wrong, 2, 1));
-            refusals.refused(name + ", z is " + wrong, Worlds::small, o -> maker.make(o, 1, 2, wrong, 1));
+            refusals.refusedAlways(name + ", x is " + wrong, Worlds::small, o -> maker.make(o, wrong, 1, 2, 1));
+            refusals.refusedAlways(name + ", y is " + wrong, Worlds::small, o -> maker.make(o, 1, wrong, 2, 1));
+            refusals.refusedAlways(name + ", z is " + wrong, Worlds::small, o -> maker.make(o, 1, 2, wrong, 1));
         }
     }
 
@@ -309,10 +309,10 @@ public final class MakingLimitsTest {
         for (int x = 0; x < 4; x++) {
             int same = x;
             int other = (x + 1) % 4;
-            refusals.refused(name + ", x is y", Worlds::small, o -> maker.make(o, same, same, other, 1));
-            refusals.refused(name + ", x is z", Worlds::small, o -> maker.make(o, same, other, same, 1));
-            refusals.refused(name + ", y is z", Worlds::small, o -> maker.make(o, other, same, same, 1));
-            refusals.refused(name + ", all three are the same", Worlds::small, o -> maker.make(o, same, same, same, 1));
+            refusals.refusedAlways(name + ", x is y", Worlds::small, o -> maker.make(o, same, same, other, 1));
+            refusals.refusedAlways(name + ", x is z", Worlds::small, o -> maker.make(o, same, other, same, 1));
+            refusals.refusedAlways(name + ", y is z", Worlds::small, o -> maker.make(o, other, same, same, 1));
+            refusals.refusedAlways(name + ", all are the same", Worlds::small, o -> maker.make(o, same, same, same, 1));
         }
     }
 
@@ -321,7 +321,7 @@ public final class MakingLimitsTest {
             refusals.taken("total, s is " + s, Worlds::small, o -> o.total(0, 1, 2, s), 7);
         }
         for (int s : Check.outside(0, 45)) {
-            refusals.refused("total, s is " + s, Worlds::small, o -> o.total(0, 1, 2, s));
+            refusals.refusedAlways("total, s is " + s, Worlds::small, o -> o.total(0, 1, 2, s));
         }
     }
 
@@ -331,7 +331,7 @@ public final class MakingLimitsTest {
             refusals.taken("listed, r is " + r, Worlds::small, o -> o.listed(r, 0, 1, 2), 7);
         }
         for (int r : Check.outside(0, 3)) {
-            refusals.refused("listed, r is " + r, Worlds::small, o -> o.listed(r, 0, 1, 2));
+            refusals.refusedAlways("listed, r is " + r, Worlds::small, o -> o.listed(r, 0, 1, 2));
         }
     }
 
@@ -347,10 +347,10 @@ public final class MakingLimitsTest {
             if (there >= 1) {
                 refusals.taken("remove of the last variable", story, o -> remove(o, there - 1, 0), 1);
             }
-            refusals.refused("remove of the next variable", story, o -> remove(o, there, 0));
+            refusals.refusedAlways("remove of the next variable", story, o -> remove(o, there, 0));
         }
         for (int x : Check.outside(0, 3)) {
-            refusals.refused("remove(" + x + ", 0)", Worlds::small, o -> remove(o, x, 0));
+            refusals.refusedAlways("remove(" + x + ", 0)", Worlds::small, o -> remove(o, x, 0));
         }
     }
 
@@ -360,7 +360,7 @@ public final class MakingLimitsTest {
         for (int value = 0; value < 16; value++) {
             int v = value;
             if ((domain & 1 << v) == 0) {
-                refusals.refused("remove(0, " + v + ")", story, o -> remove(o, 0, v));
+                refusals.refusedAlways("remove(0, " + v + ")", story, o -> remove(o, 0, v));
             } else {
                 TrailedDomains object = Refusals.after(story);
                 check.due("remove(0, " + v + ")", object.remove(0, v), true);
@@ -368,14 +368,14 @@ public final class MakingLimitsTest {
             }
         }
         for (int v : Check.outside(0, 15)) {
-            refusals.refused("remove(0, " + v + ")", story, o -> remove(o, 0, v));
-            refusals.refused("remove(0, " + v + ") of all", o -> o.variable(65535), o -> remove(o, 0, v));
+            refusals.refusedAlways("remove(0, " + v + ")", story, o -> remove(o, 0, v));
+            refusals.refusedAlways("remove(0, " + v + ") of all", o -> o.variable(65535), o -> remove(o, 0, v));
         }
-        refusals.refused("remove(0, 2) again", o -> {
+        refusals.refusedAlways("remove(0, 2) again", o -> {
             story.tell(o);
             o.remove(0, 2);
         }, o -> remove(o, 0, 2));
-        refusals.refused("remove(1, 3), which closing took out", o -> {
+        refusals.refusedAlways("remove(1, 3), which closing took out", o -> {
             Worlds.small(o);
             o.close();
         }, o -> remove(o, 1, 3));
@@ -391,9 +391,9 @@ public final class MakingLimitsTest {
                 two.tell(o);
                 o.remove(0, other);
             };
-            refusals.refused("remove(0, " + v + ") of one", alone, o -> remove(o, 0, v));
+            refusals.refusedAlways("remove(0, " + v + ") of one", alone, o -> remove(o, 0, v));
             refusals.taken("remove(0, " + v + ") of two", two, o -> remove(o, 0, v), 1);
-            refusals.refused("remove(0, " + v + "), the other of two gone", left, o -> remove(o, 0, v));
+            refusals.refusedAlways("remove(0, " + v + "), the other of two gone", left, o -> remove(o, 0, v));
         }
         TrailedDomains object = Check.withVariables(65535);
         for (int v = 0; v < 15; v++) {

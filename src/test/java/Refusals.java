@@ -57,12 +57,23 @@ final class Refusals {
         }
     }
 
+    /** What neither a level nor a search makes right is refused above a level and in a search too. */
+    void refusedAlways(String what, Story story, Call call) {
+        Story levelled = o -> Worlds.level(o, story);
+        refused(what, story, call);
+        refused(what + " above a level", levelled, call);
+        refused(what + " before the root", o -> Worlds.search(o, story, 0), call);
+        refused(what + " in a search above a level", o -> Worlds.search(o, levelled, 2), call);
+    }
+
     /** 'when a search is under way': at every moment of one, but neither before it nor after it. */
     void refusedInASearch(String what, Story before, Call call, int due) {
+        Story levelled = o -> Worlds.level(o, before);
         taken(what + " before a search", before, call, due);
         for (int visits = 0; visits <= Worlds.VISITS; visits++) {
             int made = visits;
             refused(what + " after " + made + " visits", o -> Worlds.search(o, before, made), call);
+            refused(what + " after " + made + " visits, a level", o -> Worlds.search(o, levelled, made), call);
         }
         refused(what + " after the root failed", o -> Worlds.failAtTheRoot(o, before), call);
         taken(what + " after a search was stopped", o -> Worlds.stopASearch(o, before), call, due);

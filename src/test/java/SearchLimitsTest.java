@@ -77,9 +77,9 @@ public final class SearchLimitsTest {
         for (int n : new int[] {1, MOST_VISITS_OF_A_CALL}) {
             String what = "advance(" + n + ") ";
             refusals.refused(what + "of a new object", o -> { }, o -> o.advance(n));
-            refusals.refused(what + "without a search", Worlds::small, o -> o.advance(n));
-            refusals.refused(what + "after stop()", o -> Worlds.stopASearch(o, Worlds::small), o -> o.advance(n));
-            refusals.refused(what + "after the end", o -> Worlds.endASearch(o, Worlds::small), o -> o.advance(n));
+            refusals.refused(what + "without a search", Worlds::levelled, o -> o.advance(n));
+            refusals.refused(what + "after stop()", o -> Worlds.stopASearch(o, Worlds::levelled), o -> o.advance(n));
+            refusals.refused(what + "after the end", o -> Worlds.endASearch(o, Worlds::levelled), o -> o.advance(n));
         }
         refusals.taken("advance(1) in a search", o -> Worlds.search(o, Worlds::small, 0), o -> o.advance(1), 1);
     }
@@ -87,7 +87,7 @@ public final class SearchLimitsTest {
     private void promise13WhenNIsNot1To20() {
         for (int visits = 0; visits <= Worlds.VISITS; visits++) {
             int made = visits;
-            Refusals.Story story = o -> Worlds.search(o, Worlds::small, made);
+            Refusals.Story story = o -> Worlds.search(o, Worlds::levelled, made);
             for (int n : Check.outside(1, MOST_VISITS_OF_A_CALL)) {
                 refusals.refused("advance(" + n + ") after " + made + " visits", story, o -> o.advance(n));
             }
@@ -95,6 +95,7 @@ public final class SearchLimitsTest {
         Refusals.Story failed = o -> Worlds.failAtTheRoot(o, Worlds::small);
         for (int n : Check.outside(1, MOST_VISITS_OF_A_CALL)) {
             refusals.refused("advance(" + n + ") after the root failed", failed, o -> o.advance(n));
+            refusals.refused("advance(" + n + ") without a search", Worlds::levelled, o -> o.advance(n));
         }
     }
 
@@ -195,9 +196,9 @@ public final class SearchLimitsTest {
 
     private void promise18WhenNoSearchIsUnderWay() {
         refusals.refused("depth() of a new object", o -> { }, TrailedDomains::depth);
-        refusals.refused("depth() without a search", Worlds::small, TrailedDomains::depth);
-        refusals.refused("depth() after stop()", o -> Worlds.stopASearch(o, Worlds::small), TrailedDomains::depth);
-        refusals.refused("depth() after the end", o -> Worlds.endASearch(o, Worlds::small), TrailedDomains::depth);
+        refusals.refused("depth() without a search", Worlds::levelled, TrailedDomains::depth);
+        refusals.refused("depth() after stop()", o -> Worlds.stopASearch(o, Worlds::levelled), TrailedDomains::depth);
+        refusals.refused("depth() after the end", o -> Worlds.endASearch(o, Worlds::levelled), TrailedDomains::depth);
     }
 
     private void promise18WhenThereIsNoPresentNode() {
@@ -232,7 +233,8 @@ public final class SearchLimitsTest {
     private void promises19To21WhenThereWasNoSearch() {
         checkCounts("a new object", new TrailedDomains(), -1, 0, 0, 0);
         checkCounts("no search yet", Refusals.after(Worlds::levelled), -1, 0, 0, 0);
-        TrailedDomains closed = Refusals.after(o -> Worlds.rules(o, 16));
+        TrailedDomains closed = Refusals.after(Worlds::small);
+        closed.exceed(1, 2, 15);
         check.due("close() that fails", closed.close(), -1);
         checkCounts("close() is no visit", closed, -1, 0, 0, 0);
     }

@@ -19,12 +19,15 @@ public final class TermsTest {
         test.listWithTwelveEntries();
         test.entryOfOneValue();
         test.entryOfAnyValue();
+        test.entryThatMatchesAtTwoPlacesOnly();
         test.closingGoesOnAsLongAsItCan();
         test.rootWithoutVariables();
         test.rootWithOneValueEach();
         test.rootThatFails();
         test.branchVariableHasMoreThanOneValue();
         test.branchVariableOfFewAndManyRules();
+        test.branchVariableBesideOneOrTwoValues();
+        test.branchVariableOfARuleAboutThree();
         test.branchVariableOfSeveral();
         test.trialsInRisingOrder();
         test.failedTrialsDoNotCountAsNodes();
@@ -255,6 +258,20 @@ public final class TermsTest {
         check.due("any values: close()", all.close(), 0);
     }
 
+    private void entryThatMatchesAtTwoPlacesOnly() {
+        for (int place = 0; place < 3; place++) {
+            TrailedDomains object = Check.withVariables(0b11, 0b11, 0b11);
+            object.entry(1, place == 0 ? 2 : 0, place == 1 ? 2 : 0, place == 2 ? 2 : 0);
+            object.entry(1, 1, 1, 1);
+            object.listed(1, 0, 1, 2);
+            check.due("not matched at " + place + ": supports(0, 0, 0)", object.supports(0, 0, 0), 0);
+            check.due("not matched at " + place + ": supports(0, 1, 0)", object.supports(0, 1, 0), 0);
+            check.due("not matched at " + place + ": supports(0, 2, 0)", object.supports(0, 2, 0), 0);
+            check.due("not matched at " + place + ": close()", object.close(), 3);
+            check.dueDomains("not matched at " + place, object, 0b10, 0b10, 0b10);
+        }
+    }
+
     /** 'as long as some value .. is not supported', and 'does not depend on the order' of the rules. */
     private void closingGoesOnAsLongAsItCan() {
         int[][] orders = {{0, 1, 2, 3, 4, 5, 6}, {6, 5, 4, 3, 2, 1, 0}, {0, 2, 4, 6, 1, 3, 5}, {5, 3, 1, 6, 4, 2, 0}};
@@ -376,6 +393,46 @@ public final class TermsTest {
         object.search();
         object.advance(2);
         check.dueDomains(what, object, domains);
+    }
+
+    /**
+     * Variable 1 has 3 values and a rule, 3 / 2. Variable 0 with 2 values comes before it only if a
+     * rule about it counts, and that is so if the other variable of that rule has two values, not one.
+     */
+    private void branchVariableBesideOneOrTwoValues() {
+        for (int beside : new int[] {1, 1 << 15, 1 << 15 | 1, 0b0011, 0b0111, 65535}) {
+            boolean counts = Integer.bitCount(beside) > 1;
+            for (int order = 0; order < 2; order++) {
+                TrailedDomains object = Check.withVariables(0b0011, 0b0111, 0b0111, beside);
+                object.exceed(1, 2, -15);
+                object.exceed(order == 0 ? 0 : 3, order == 0 ? 3 : 0, -15);
+                checkFirstTrial("beside " + beside, object, counts ? 1 : 0b0011, counts ? 0b0111 : 1, 0b0111, beside);
+            }
+        }
+    }
+
+    /** Such a rule counts once if one or both of the others have more than one value. */
+    private void branchVariableOfARuleAboutThree() {
+        int[][] orders = {{0, 2, 3}, {2, 0, 3}, {2, 3, 0}};
+        for (int[] order : orders) {
+            for (int open = 0; open < 4; open++) {
+                for (int values = 3; values <= 4; values++) {
+                    int second = open % 2 == 0 ? 1 : 31;
+                    int third = open / 2 == 0 ? 1 : 31;
+                    TrailedDomains object = Check.withVariables((1 << values) - 1, 0b11, second, third);
+                    object.entry(0, -1, -1, -1);
+                    object.listed(0, order[0], order[1], order[2]);
+                    // 3 / 2 is less than 2 / 1, and 4 / 2 is the same, with a lesser number.
+                    boolean isFirst = open > 0;
+                    checkFirstTrial("open are " + open, object, isFirst ? 1 : (1 << values) - 1, isFirst ? 0b11 : 1);
+                }
+                TrailedDomains once = Check.withVariables(31, 0b11, open % 2 == 0 ? 1 : 31, open / 2 == 0 ? 1 : 31);
+                once.entry(0, -1, -1, -1);
+                once.listed(0, order[0], order[1], order[2]);
+                // 5 / 2 is more than 2 / 1; if the rule counted twice, 5 / 3 would be less.
+                checkFirstTrial("open are " + open + ", five values", once, 31, 1);
+            }
+        }
     }
 
     /** 'of several, that with the least number' */

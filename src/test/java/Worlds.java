@@ -30,9 +30,7 @@ final class Worlds {
 
     /** As small(), above a level with a rule made and a value removed since; a search is the same. */
     static void levelled(TrailedDomains object) {
-        small(object);
-        object.push();
-        object.remove(1, 3);
+        level(object, Worlds::small);
         object.exceed(3, 0, -15);
     }
 
@@ -49,29 +47,45 @@ final class Worlds {
         object.total(5, 6, 7, 21);
     }
 
+    /** A level, with a value removed above it if variable 1 has it; a search in small() is the same. */
+    static void level(TrailedDomains object, Refusals.Story before) {
+        before.tell(object);
+        object.push();
+        object.remove(1, 3);
+    }
+
     static void variables(TrailedDomains object, int count) {
         for (int x = 0; x < count; x++) {
             object.variable(65535 >> x);
         }
     }
 
-    /** Three variables and this many rules, of all kinds. */
+    /** All eight variables, with an entry and a rule. */
+    static void eightVariables(TrailedDomains object) {
+        object.entry(0, 4, 4, 4);
+        variables(object, 8);
+        object.differ(0, 7, 1);
+    }
+
+    /** Three variables and this many rules, of all kinds, which can all be met. */
     static void rules(TrailedDomains object, int count) {
-        object.entry(2, -1, 1, 1);
+        object.entry(0, 4, 4, 4);
+        object.entry(2, -1, -1, -1);
         variables(object, 3);
         for (int k = 0; k < count; k++) {
             switch (k % 4) {
                 case 0 -> object.differ(0, 1, k);
                 case 1 -> object.exceed(1, 2, -k);
-                case 2 -> object.total(0, 1, 2, 10 + k);
+                case 2 -> object.total(0, 1, 2, 20);
                 default -> object.listed(2, 2, 0, 1);
             }
         }
     }
 
-    /** Three variables, and this many entries in list r. */
+    /** Three variables, a rule, and this many entries in list r. */
     static void entries(TrailedDomains object, int r, int count) {
         variables(object, 3);
+        object.differ(0, 1, 15);
         for (int e = 0; e < count; e++) {
             object.entry(r, e, 15 - e, -1);
         }
