@@ -370,6 +370,7 @@ public final class MakingLimitsTest {
         for (int v : Check.outside(0, 15)) {
             refusals.refusedAlways("remove(0, " + v + ")", story, o -> remove(o, 0, v));
             refusals.refusedAlways("remove(0, " + v + ") of all", o -> o.variable(65535), o -> remove(o, 0, v));
+            refusals.refusedAlways("remove(1, " + v + ")", Worlds::small, o -> remove(o, 1, v));
         }
         refusals.refusedAlways("remove(0, 2) again", o -> {
             story.tell(o);
@@ -395,6 +396,10 @@ public final class MakingLimitsTest {
             refusals.taken("remove(0, " + v + ") of two", two, o -> remove(o, 0, v), 1);
             refusals.refusedAlways("remove(0, " + v + "), the other of two gone", left, o -> remove(o, 0, v));
         }
+        refusals.refusedAlways("remove(0, 1), one variable of several", o -> {
+            Worlds.small(o);
+            o.remove(0, 0);
+        }, o -> remove(o, 0, 1));
         TrailedDomains object = Check.withVariables(65535);
         for (int v = 0; v < 15; v++) {
             check.due("remove(0, " + v + ") in turn", object.remove(0, v), true);

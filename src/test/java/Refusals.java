@@ -127,8 +127,8 @@ final class Refusals {
     }
 
     private static void goBack(TrailedDomains object, List<Integer> answers) {
-        answers.add(number(object.stop()));
-        for (int level = LEVELS; level >= 0; level--) {
+        endTheSearch(object);
+        for (int level = countLevels(object); level > 0; level--) {
             answers.add(object.pop());
             look(object, answers);
         }
@@ -137,14 +137,31 @@ final class Refusals {
     }
 
     private static void searchAnew(TrailedDomains object, List<Integer> answers) {
-        answers.add(number(object.stop()));
+        endTheSearch(object);
         answers.add(number(object.search()));
         goOn(object, answers);
     }
 
+    /** Asks for no stop() that would be refused: that could do to both objects what it did to one. */
+    private static void endTheSearch(TrailedDomains object) {
+        if (object.depth() >= 0) {
+            object.stop();
+        }
+    }
+
+    /** Asks for no pop() that would be refused, for the same reason. */
+    private static int countLevels(TrailedDomains object) {
+        int levels = object.push();
+        if (levels < 0) {
+            return LEVELS;
+        }
+        object.pop();
+        return levels - 1;
+    }
+
     private static void fillUp(TrailedDomains object, int r, List<Integer> answers) {
-        object.stop();
-        for (int level = 0; level < LEVELS; level++) {
+        endTheSearch(object);
+        for (int level = countLevels(object); level > 0; level--) {
             object.pop();
         }
         for (int e = 0; e <= 12; e++) {
