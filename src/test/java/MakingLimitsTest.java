@@ -122,7 +122,8 @@ public final class MakingLimitsTest {
         for (int list = 0; list < 4; list++) {
             int r = list;
             Refusals.Story story = o -> {
-                Worlds.entries(o, r, 2);
+                Worlds.variables(o, 3);
+                o.entry(r, 2, -1, 3);
                 o.listed(r, 2, 1, 0);
             };
             refusals.refusedAlways("entry of list " + r + ", which a rule has", story, o -> entry(o, r, 1, 1, 1));

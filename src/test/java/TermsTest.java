@@ -258,17 +258,26 @@ public final class TermsTest {
         check.due("any values: close()", all.close(), 0);
     }
 
+    /** The value 0 of one place stands only in an entry that has no value of the domain at another place. */
     private void entryThatMatchesAtTwoPlacesOnly() {
-        for (int place = 0; place < 3; place++) {
-            TrailedDomains object = Check.withVariables(0b11, 0b11, 0b11);
-            object.entry(1, place == 0 ? 2 : 0, place == 1 ? 2 : 0, place == 2 ? 2 : 0);
-            object.entry(1, 1, 1, 1);
-            object.listed(1, 0, 1, 2);
-            check.due("not matched at " + place + ": supports(0, 0, 0)", object.supports(0, 0, 0), 0);
-            check.due("not matched at " + place + ": supports(0, 1, 0)", object.supports(0, 1, 0), 0);
-            check.due("not matched at " + place + ": supports(0, 2, 0)", object.supports(0, 2, 0), 0);
-            check.due("not matched at " + place + ": close()", object.close(), 3);
-            check.dueDomains("not matched at " + place, object, 0b10, 0b10, 0b10);
+        for (int own = 0; own < 3; own++) {
+            for (int missing = 0; missing < 3; missing++) {
+                if (missing != own) {
+                    int[] entry = {1, 1, 1};
+                    entry[own] = 0;
+                    entry[missing] = 2;
+                    TrailedDomains object = Check.withVariables(0b11, 0b11, 0b11);
+                    object.entry(1, entry[0], entry[1], entry[2]);
+                    object.entry(1, 1, 1, 1);
+                    object.listed(1, 0, 1, 2);
+                    String what = "0 at " + own + ", 2 at " + missing;
+                    check.due(what + ": with 0", object.supports(0, own, 0), 0);
+                    check.due(what + ": with 1", object.supports(0, own, 1), 1);
+                    check.due(what + ": with 2", object.supports(0, missing, 2), 1);
+                    check.due(what + ": close()", object.close(), 3);
+                    check.dueDomains(what, object, 0b10, 0b10, 0b10);
+                }
+            }
         }
     }
 
@@ -328,6 +337,14 @@ public final class TermsTest {
         check.due("two values of the last: advance(1) at last", open.advance(1), 2);
         check.due("two values of the last: domain(7) at last", open.domain(7), 32768);
         check.due("two values of the last: the end", open.advance(1), 0);
+        TrailedDomains later = Check.withVariables(0b11);
+        later.search();
+        check.due("two values: the root", later.advance(1), 1);
+        later.stop();
+        later.remove(0, 0);
+        later.search();
+        check.due("one of them gone: the root", later.advance(1), 2);
+        check.due("one of them gone: no trial of the search before", later.advance(1), 0);
     }
 
     /** 'it fails if that is EMPTY, and then no visit is left' */
