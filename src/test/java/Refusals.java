@@ -96,6 +96,7 @@ final class Refusals {
         all.add(Refusals::look);
         all.add(Refusals::goOn);
         all.add(Refusals::goBack);
+        all.add(Refusals::goBackAtOnce);
         all.add(Refusals::searchAnew);
         for (int r = 0; r < 4; r++) {
             int list = r;
@@ -126,6 +127,10 @@ final class Refusals {
         }
     }
 
+    /**
+     * A refused call in an aftermath could do to both objects what it did to one. So there are two ways
+     * back: this one makes no stop() and no pop() that is refused, the other no push() and no depth().
+     */
     private static void goBack(TrailedDomains object, List<Integer> answers) {
         endTheSearch(object);
         for (int level = countLevels(object); level > 0; level--) {
@@ -136,20 +141,29 @@ final class Refusals {
         look(object, answers);
     }
 
+    private static void goBackAtOnce(TrailedDomains object, List<Integer> answers) {
+        object.stop();
+        for (int level = LEVELS; level >= 0; level--) {
+            answers.add(object.pop());
+            answers.add(object.rules());
+            for (int x = 0; x < 8; x++) {
+                answers.add(object.domain(x));
+            }
+        }
+    }
+
     private static void searchAnew(TrailedDomains object, List<Integer> answers) {
         endTheSearch(object);
         answers.add(number(object.search()));
         goOn(object, answers);
     }
 
-    /** Asks for no stop() that would be refused: that could do to both objects what it did to one. */
     private static void endTheSearch(TrailedDomains object) {
         if (object.depth() >= 0) {
             object.stop();
         }
     }
 
-    /** Asks for no pop() that would be refused, for the same reason. */
     private static int countLevels(TrailedDomains object) {
         int levels = object.push();
         if (levels < 0) {
